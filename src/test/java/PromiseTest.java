@@ -96,6 +96,7 @@ public final class PromiseTest {
         rules("2: again", x, "1045", "5555", "0133");
         due.is("2: again the newest", x.rule(0, 1, 0, 0), 3);
         rules("2: again the newest", x, "1045", "5555", "0100");
+        due.is("2: again one that comes to 0 0", x.rule(0, 1, 0, 0), 3);
         for (int bad : NO_STATES) {
             due.is("2: p " + bad, x.rule(bad, 0, 0, 0), UNKNOWN);
             due.is("2: q " + bad, x.rule(0, bad, 0, 0), UNKNOWN);
@@ -280,6 +281,10 @@ public final class PromiseTest {
         }
         due.is("9: one", x.meet(3, 3), STATE);
         due.is("9: refusals change nothing", x.many(2), 6);
+        x.rule(1, 1, 0, 0);
+        x.agents(0, 2, 0, 0, 0, 0);
+        due.is("9: both come to 0", x.meet(1, 0), 1);
+        due.is("9: two in 0", x.in(0), 2);
     }
 
     private static void promise10() {
@@ -416,6 +421,17 @@ public final class PromiseTest {
         return x;
     }
 
+    /** Two in 0 and 2 go to 1 and 2 and back, or for good to 3 and 3, which alone tells 1. */
+    private static MetAgents toAndFro() {
+        MetAgents x = new MetAgents();
+        x.rule(0, 2, 1, 2);
+        x.rule(1, 2, 0, 2);
+        x.rule(2, 0, 3, 3);
+        x.tells(3, 1);
+        x.agents(1, 0, 1, 0, 0, 0);
+        return x;
+    }
+
     private static void reaches(String what, MetAgents x, int all, int agreed, int stable, int silent) {
         due.is(what + ", all", x.reached(0), all);
         due.is(what + ", AGREED", x.reached(1), agreed);
@@ -454,6 +470,7 @@ public final class PromiseTest {
         reaches("15: to and fro, AGREED by two numbers", round, 2, 2, 0, 0);
         round.agents(1, 1, 0, 0, 0, 0);
         reaches("15: to itself alone", round, 1, 0, 0, 1);
+        reaches("15: all but one can come away", toAndFro(), 3, 3, 1, 1);
         MetAgents still = new MetAgents();
         still.rule(0, 1, 0, 1);
         still.agents(1, 1, 0, 0, 0, 0);
@@ -511,6 +528,7 @@ public final class PromiseTest {
         due.is("17: a STABLE one is reached all the same", stuck.soonest(), 1);
         stuck.tells(2, 1);
         due.is("17: both ends tell 1", stuck.decided(), 1);
+        due.is("17: by way of the beginning", toAndFro().decided(), 1);
         MetAgents round = new MetAgents();
         round.rule(0, 0, 1, 1);
         round.rule(1, 1, 0, 0);
@@ -571,6 +589,14 @@ public final class PromiseTest {
         due.is("19: the round is gone", x.longest(), 1);
         x.rule(3, 2, 2, 2);
         due.is("19: back to the beginning", x.longest(), NONE);
+        MetAgents ways = new MetAgents();
+        ways.rule(0, 1, 2, 2);
+        ways.rule(1, 0, 3, 3);
+        ways.rule(3, 3, 2, 2);
+        ways.agents(1, 1, 0, 0, 0, 0);
+        due.is("19: the longer of two ways to one", ways.longest(), 2);
+        ways.unrule(1, 0);
+        due.is("19: the longer way is gone", ways.longest(), 1);
     }
 
     private static void share(String what, MetAgents x, int m, long upper, long lower) {
@@ -607,6 +633,8 @@ public final class PromiseTest {
         y.rule(2, 3, 3, 2);
         y.rule(3, 2, 1, 1);
         share("20: taking the other's state moves no further", y, 2, 1, 2);
+        share("20: to and fro, two meetings", toAndFro(), 2, 1, 2);
+        share("20: to and fro, three meetings", toAndFro(), 3, 5, 8);
         // 1 of 30 does it each time: 30 to the 12th less 29 to the 12th
         MetAgents z = new MetAgents();
         z.rule(0, 1, 2, 2);
@@ -705,6 +733,8 @@ public final class PromiseTest {
         y.rule(0, 1, 2, 3);
         // 5^2 times the rows with w0 + w1 = w2 + w3: 1+4+9+16+25+16+9+4+1
         due.is("24: four states", y.keepers(), 25 * 85);
+        y.rule(0, 1, 2, 2);
+        due.is("24: three states", y.keepers(), 125 * 13);
     }
 
     private static void promise25() {
@@ -725,6 +755,7 @@ public final class PromiseTest {
         due.is("25: REST 1 is always 1", all.wrong(6, 2, 1), NONE);
         due.is("25: 1 of 2 is left", all.wrong(6, 2, 2), 1);
         due.is("25: fewer than 6 are not enough", all.wrong(6, 1, 6), 0);
+        due.is("25: all of them", new MetAgents().wrong(2, 1, 2), 2);
         due.is("25: no rules, nothing but 0 told", new MetAgents().wrong(2, 2, 2), 0);
         // 1 and 4 carry what is left by 2 (1 and 0) and tell the others, 2 and 3, what they know
         MetAgents parity = new MetAgents();
