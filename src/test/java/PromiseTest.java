@@ -353,10 +353,10 @@ public final class PromiseTest {
             due.is("12: both " + bad, x.waits(bad, bad), UNKNOWN);
         }
         due.is("12: one", x.waits(2, 2), STATE);
-        for (int i = 0; i < 500; i++) {
+        for (int i = 0; i < 470; i++) {
             x.meet(0, 1);
         }
-        due.is("12: long", x.waits(1, 0), 504);
+        due.is("12: long", x.waits(1, 0), 474);
     }
 
     private static void promise13() {
