@@ -8,8 +8,9 @@ import java.util.stream.Stream;
 
 /**
  * The runs of calls under src/test/runs, each on a new object (README.md tells their form). Behind
- * each call of them that is refused or only asks, what later calls answer is compared with that of
- * an object that was told nothing but the calls that were taken and may change something.
+ * each entry of them, once there has been a call that was refused or only asks, what later calls
+ * answer is compared with that of an object that was told nothing but the calls that were taken and
+ * may change something; not where that would be more than 512 calls.
  */
 public final class RunsTest {
     private static final Due due = new Due("RunsTest");
