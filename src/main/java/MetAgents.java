@@ -267,7 +267,7 @@ public final class MetAgents {
 
     public int breaks() {
         for (int k = 0; k < book.count; k++) {
-            if (!isKept(k, weights)) {
+            if (!isKept(book, k, weights)) {
                 return k;
             }
         }
@@ -279,7 +279,7 @@ public final class MetAgents {
         for (int k = 0; k < book.count; k++) {
             named |= book.statesNamedAt(k);
         }
-        return countKept(0, named);
+        return countKept(book, trial, 0, named);
     }
 
     public int wrong(int n, int kind, int k) {
@@ -332,36 +332,36 @@ public final class MetAgents {
         return a;
     }
 
-    private boolean isKept(int k, int[] row) {
+    private static boolean isKept(RuleBook book, int k, int[] row) {
         int before = book.twoAt(k);
         int behind = book.outcomeAt(k);
         return row[Two.first(before)] + row[Two.second(before)]
             == row[Two.first(behind)] + row[Two.second(behind)];
     }
 
-    /** How many ways there are to go on with trial from a state on; those below it stand. */
-    private int countKept(int state, int named) {
+    /** How many ways there are to go on with a row from a state on; those below it stand. */
+    private static int countKept(RuleBook book, int[] row, int state, int named) {
         if (state >= STATES) {
             return 1;
         }
         if ((named >> state & 1) == 0) {
             // no rule looks at this state, so each of its weights does as well
-            return (2 * MOST_KEPT + 1) * countKept(state + 1, named);
+            return (2 * MOST_KEPT + 1) * countKept(book, row, state + 1, named);
         }
         int kept = 0;
         for (int w = -MOST_KEPT; w <= MOST_KEPT; w++) {
-            trial[state] = w;
-            if (isTrialKept(state)) {
-                kept += countKept(state + 1, named);
+            row[state] = w;
+            if (isKeptSoFar(book, row, state)) {
+                kept += countKept(book, row, state + 1, named);
             }
         }
         return kept;
     }
 
     /** Looks only at the rules whose last state has just got its weight. */
-    private boolean isTrialKept(int state) {
+    private static boolean isKeptSoFar(RuleBook book, int[] row, int state) {
         for (int k = 0; k < book.count; k++) {
-            if (book.statesNamedAt(k) >> state == 1 && !isKept(k, trial)) {
+            if (book.statesNamedAt(k) >> state == 1 && !isKept(book, k, row)) {
                 return false;
             }
         }

@@ -4,7 +4,9 @@ import java.lang.reflect.Method;
 import java.lang.reflect.Modifier;
 import java.nio.file.Files;
 import java.nio.file.Path;
+import java.util.Map;
 import java.util.Set;
+import java.util.TreeMap;
 import java.util.TreeSet;
 import java.util.regex.Matcher;
 import java.util.regex.Pattern;
@@ -25,7 +27,10 @@ public final class FaceTest {
         methods();
         fields();
         classes();
-        text(Files.readString(Path.of(args[0])));
+        String source = Files.readString(Path.of(args[0]));
+        String code = source.replaceAll("(?s)/\\*.*?\\*/", " ").replaceAll("//[^\n]*", " ");
+        text(code);
+        lengthsAndCalls(code);
         due.end();
     }
 
@@ -83,8 +88,7 @@ public final class FaceTest {
         }
     }
 
-    private static void text(String source) {
-        String code = source.replaceAll("(?s)/\\*.*?\\*/", " ").replaceAll("//[^\n]*", " ");
+    private static void text(String code) {
         for (String word : new String[] {"throw", "throws", "try", "catch", "synchronized", "assert",
             "package", "native", "volatile", "strictfp", "var", "hashCode", "toString"}) {
             due.isTrue("not in the text: " + word, !Pattern.compile("\\b" + word + "\\b").matcher(code).find());
@@ -98,5 +102,56 @@ public final class FaceTest {
         while (used.find()) {
             due.isTrue("of the library: " + used.group(1), allowed.contains(used.group(1)));
         }
+    }
+
+    /** Rules 8 and 11: short methods, calls not deep, none that calls itself but private static ones. */
+    private static void lengthsAndCalls(String code) {
+        Map<String, String> bodies = new TreeMap<>();
+        Set<String> mayRecur = new TreeSet<>();
+        Matcher head = Pattern.compile(
+            "(?m)^((?: {4}){1,2})([a-z][\\w\\[\\] ]* )(\\w+)\\([^)]*\\) \\{\n").matcher(code);
+        while (head.find()) {
+            String body = code.substring(head.end(), code.indexOf("\n" + head.group(1) + "}", head.end()));
+            due.isTrue("at most sixty lines: " + head.group(3), body.lines().count() <= 60);
+            // two classes may have a method of one name: taken for one, it goes no less deep
+            bodies.merge(head.group(3), body, String::concat);
+            if (head.group(2).startsWith("private static ")) {
+                mayRecur.add(head.group(3));
+            }
+        }
+        due.isTrue("all methods are found", bodies.keySet().containsAll(namesDeclared()));
+        for (String name : bodies.keySet()) {
+            boolean recurs = calls(bodies.get(name), name);
+            due.isTrue("calls itself: " + name, !recurs || mayRecur.contains(name));
+            due.isTrue("at most eight deep: " + name, depth(bodies, name, 1) <= 8);
+        }
+    }
+
+    private static Set<String> namesDeclared() {
+        Set<String> names = new TreeSet<>();
+        for (Method m : MetAgents.class.getDeclaredMethods()) {
+            names.add(m.getName());
+        }
+        for (Class<?> c : MetAgents.class.getDeclaredClasses()) {
+            for (Method m : c.getDeclaredMethods()) {
+                names.add(m.getName());
+            }
+        }
+        return names;
+    }
+
+    private static boolean calls(String body, String name) {
+        return Pattern.compile("\\b" + name + "\\(").matcher(body).find();
+    }
+
+    /** How deep the calls go from one at some depth on, a call of itself left out; a round has no end. */
+    private static int depth(Map<String, String> bodies, String name, int at) {
+        int deepest = at;
+        for (String other : bodies.keySet()) {
+            if (at < 20 && !other.equals(name) && calls(bodies.get(name), other)) {
+                deepest = Math.max(deepest, depth(bodies, other, at + 1));
+            }
+        }
+        return deepest;
     }
 }
